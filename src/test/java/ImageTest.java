@@ -6,6 +6,7 @@ public final class ImageTest {
     public static void main(String[] args) {
         none();
         asTheImage();
+        otherwiseFromThere();
         inPlaceOfAnother();
         goneAnew();
         Due.end("ImageTest");
@@ -76,6 +77,39 @@ public final class ImageTest {
         Due.is("none left", x.undo(), -1);
         Due.is("and again", x.restore(), true);
         Due.is("ACTS", x.count(10), 5);
+    }
+
+    /** What was undone and done otherwise behind the image is as in the image again. */
+    private static void otherwiseFromThere() {
+        WavingDesks x = Due.desks(TEXT);
+        x.plant(0, 2, 9);
+        x.burn(3, true);
+        x.turn(2);
+        x.see(0, 2, 9, true);
+        x.see(0, 2, 8, false);
+        x.image();
+        x.undo();
+        x.undo();
+        x.undo();
+        x.plant(1, 0, 3);
+        x.cut(2, true);
+        x.move(1);
+        x.forget();
+        x.see(1, 0, 2, true);
+        x.see(1, 0, 3, false);
+        Due.is("other", x.who(0, 2), 0);
+        x.restore();
+        Due.is("the planted one", x.knows(0, 2, 0), 9);
+        Due.is("not the other one", x.knows(1, 0, 0), -1);
+        Due.is("what is seen is so", x.who(0, 2), 1);
+        Due.is("turned back", x.undo(), 2);
+        Due.is("HIS", x.agent(2, 2), 0);
+        Due.is("not burnt", x.undo(), 1);
+        Due.is("bits", x.count(4), 0);
+        Due.is("not planted", x.undo(), 0);
+        Due.is("known no more", x.knows(0, 2, 0), -1);
+        Due.is("the line stays", x.count(5), 0);
+        Due.is("the SIDE stays", x.agent(1, 1), 0);
     }
 
     private static void inPlaceOfAnother() {

@@ -8,6 +8,7 @@ public final class RuleTest {
         doubles();
         delays();
         leastTeller();
+        soonerByMore();
         burntOnes();
         dayOfFirstKnowing();
         Due.end("RuleTest");
@@ -161,6 +162,15 @@ public final class RuleTest {
         Due.is("planted twice, the first counts", y.knows(0, 0, 0), 2);
         y.plant(0, 3, 7);
         Due.is("the SOURCE knows it on day 0", y.knows(0, 3, 0), 0);
+    }
+
+    /** Who hears late by one and sooner by more tells it on the sooner day. */
+    private static void soonerByMore() {
+        WavingDesks x = Due.desks("clerk 0 0 0;clerk 0 0 0;clerk 0 0 0;clerk 0 0 0;"
+            + "line 2 0 9;line 2 1 1;line 1 0 1;line 0 3 1;secret 1 0 2;");
+        Due.is("by two", x.knows(0, 0, 0), 2);
+        Due.is("from the second", x.knows(0, 0, 1), 1);
+        Due.is("and so on", x.knows(0, 3, 0), 3);
     }
 
     private static void burntOnes() {

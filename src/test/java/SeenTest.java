@@ -58,6 +58,10 @@ public final class SeenTest {
         x.forget();
         x.see(0, 3, 99, true);
         Due.is("up to day 20", x.who(0, 0), 42);
+        x.see(0, 3, 19, false);
+        x.see(0, 2, 99, false);
+        Due.is("on day 20 alone", x.who(0, 0), 1);
+        Due.is("on day 20 alone", x.who(0, 1), 320);
         x.forget();
         x.see(0, 1, 3, false);
         x.see(0, 1, 4, true);

@@ -112,6 +112,13 @@ public final class TextTest {
         Due.fault("x", 1, 0);
         Due.fault("  clerks 0 0 0;", 1, 2);
         Due.fault("Clerk 0 0 0;", 1, 0);
+        Due.fault("alerk 0 0 0;", 1, 0);
+        Due.fault("clerkz 0 0 0;", 1, 0);
+        Due.fault("aclerk 0 0 0;", 1, 0);
+        Due.fault("clerk`0 0 0;", 1, 5);
+        Due.fault("clerk{0 0 0;", 1, 5);
+        Due.fault("clerk 0 0 /;", 1, 10);
+        Due.fault("clerk 0 0 :;", 1, 10);
         Due.fault("\tclerk 0 0 0;", 1, 0);
         Due.fault("clerk\r0 0 0;", 1, 5);
         Due.fault("clerk", 1, 5);
@@ -215,6 +222,16 @@ public final class TextTest {
         Due.fault("tells clerk;", 3, 6);
         Due.fault("tells worths;", 3, 6);
         Due.fault("tells wort;", 3, 6);
+        Due.fault("tells xorth;", 3, 6);
+        Due.fault("tells 1 or x;", 3, 11);
+        Due.fault("tells 1 or", 1, 10);
+        Due.fault("tells 1 and x;", 3, 12);
+        Due.fault("tells 1 and ;", 1, 12);
+        Due.fault("tells 1*x;", 3, 8);
+        Due.fault("tells 1/12345;", 2, 8);
+        Due.fault("tells 1-x;", 3, 8);
+        Due.fault("tells 1=x;", 3, 8);
+        Due.fault("tells (x);", 3, 7);
         Due.fault("tells 9999;", 0, -1);
         Due.fault("tells 12345;", 2, 6);
         Due.fault("tells 1+00000;", 2, 8);
@@ -235,6 +252,10 @@ public final class TextTest {
         Due.fault("tells not not not not 1 and not not not not 1;", 0, -1);
         Due.fault("tells " + "1+".repeat(346) + "1;", 0, -1);
         Due.fault("tells 1" + " ".repeat(693), 1, 700);
+        Due.fault(" ".repeat(695) + "clerk", 1, 700);
+        Due.fault(" ".repeat(693) + "tells 1", 1, 700);
+        Due.fault(" ".repeat(693) + "tells (", 1, 700);
+        Due.fault(" ".repeat(688) + ONE, 0, -1);
     }
 
     private static void faultChangesNothing() {

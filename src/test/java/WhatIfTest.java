@@ -27,6 +27,9 @@ public final class WhatIfTest {
         Due.is("who is burnt hears nothing", x.silence(0, 1), 0);
         x.burn(2, true);
         Due.is("nobody is needed", x.silence(0, 4), 0);
+        WavingDesks y = Due.desks("clerk 0 0 0;".repeat(4) + "line 3 0 1;line 3 1 1;line 0 2 1;line 1 2 1;secret 1 0 3;");
+        Due.is("told by 0", y.knows(0, 2, 1), 0);
+        Due.is("all that may be burnt", y.silence(0, 2), 3);
         Due.noSuch("silence(1, 0)", () -> x.silence(1, 0));
         Due.noSuch("silence(-1, 0)", () -> x.silence(-1, 0));
         Due.noSuch("silence(0, 5)", () -> x.silence(0, 5));
@@ -144,6 +147,10 @@ public final class WhatIfTest {
             + "grudge 0 1;grudge 2 1;grudge 0 2;grudge 0 3;grudge 2 3;grudge 1 3;");
         Due.is("below 0", v.exchange(0), -2);
         Due.is("though they move", v.exchange(1), 1);
+        WavingDesks all = Due.desks("clerk 0 1 0;clerk 0 1 1;clerk 0 1 2;clerk 0 1 3;");
+        Due.is("all families", all.exchange(0), 4);
+        Due.is("all families", all.exchange(1), 15);
+        Due.is("a grudge of the second and third", Due.desks("clerk 0 0 0;clerk 1 1 1;clerk 1 1 2;grudge 1 2;").exchange(0), 2);
         Due.noSuch("exchange(2)", () -> v.exchange(2));
         Due.noSuch("exchange(-1)", () -> v.exchange(-1));
     }
