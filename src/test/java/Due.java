@@ -8,6 +8,8 @@ final class Due {
 
     private static int wrong = 0;
     private static int checked = 0;
+    /** The words of the document that are tested just now. */
+    private static String saying = "";
 
     private Due() {
     }
@@ -39,8 +41,18 @@ final class Due {
         checked++;
         if (!got.equals(want)) {
             wrong++;
-            System.out.println(call + " answered " + got + ", due is " + want);
+            System.out.println(saying + call + " answered " + got + ", due is " + want);
         }
+    }
+
+    /** A test of its own for words of the document. */
+    static void says(String section, String words, Runnable test) {
+        Doc.quote(section, words);
+        int before = checked;
+        saying = "\"" + words + "\": ";
+        test.run();
+        is("it looks at something", checked > before, true);
+        saying = "";
     }
 
     /** An exception's name, or the answer. */
