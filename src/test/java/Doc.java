@@ -22,7 +22,10 @@ final class Doc {
         } catch (IOException e) {
             return sections;
         }
-        String body = text.substring(text.indexOf("## Terms"), text.indexOf("## Not promised"));
+        int from = text.indexOf("## Terms");
+        int to = text.indexOf("## Not promised");
+        Due.is("the document has its parts", from >= 0 && to > from, true);
+        String body = text.substring(Math.max(from, 0), Math.max(to, Math.max(from, 0)));
         String marked = body.replaceAll("```(text)?", "").replaceAll("==== (\\d)\\.", "\n## $1\n");
         for (String part : marked.split("(?m)^ *## ")) {
             String head = part.lines().findFirst().orElse("").replaceAll(":.*", "").trim();

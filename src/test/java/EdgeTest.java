@@ -9,6 +9,7 @@ public final class EdgeTest {
         EdgesOfAsking.run();
         EdgesOfActing.run();
         EdgesOfImagining.run();
+        EdgesOfFull.run();
         Doc.allQuoted();
         Due.end("EdgeTest");
     }

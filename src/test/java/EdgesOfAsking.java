@@ -285,6 +285,18 @@ final class EdgesOfAsking {
             x.plant(5, 1, 60);
             Due.is("the last one, too", x.agent(1, 4), 33);
             Due.is("none", Due.desks("clerk 0 0 0;clerk 0 0 0;secret 1 0 0;").agent(1, 4), 0);
+            // the farthest DAY that can be: planted on DAY 60 and told on by seven LINES of 10 DAYS
+            StringBuilder row = new StringBuilder("codist 0 0 0;".repeat(8) + "secret 1 0 7;");
+            for (int i = 0; i < 6; i++) {
+                row.append("line ").append(i).append(' ').append(i + 1).append(" 9;");
+            }
+            WavingDesks y = Due.desks(row.toString());
+            y.plant(0, 0, 60);
+            Due.is("on DAY 120", y.knows(0, 6, 0), 120);
+            Due.is("is ever", y.agent(6, 4), 1);
+            Due.is("not by DAY 119", y.heard(6, 119), 0);
+            Due.is("by DAY 120", y.heard(6, 120), 1);
+            Due.is("the farthest", y.farthest(), 120);
         });
         says(6, "5 whether BURNT (1).", () -> {
             WavingDesks x = Due.desks(EdgesOfTerms.clerks(8));

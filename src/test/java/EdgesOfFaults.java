@@ -124,6 +124,21 @@ final class EdgesOfFaults {
             Due.feed(x, "clerk 0 0 0;");
             Due.is("the first bytes alone", x.offices(11), 1);
             Due.is("their length", x.fault(), 11);
+            // a NUMBER and a word end with the text, though the tape goes on
+            for (int length = 7; length <= 11; length++) {
+                WavingDesks y = new WavingDesks();
+                Due.feed(y, "tells 12345;");
+                Due.is("the first " + length, y.offices(length), length == 11 ? 2 : 1);
+                Due.is("the place", y.fault(), length == 11 ? 6 : length);
+                WavingDesks z = new WavingDesks();
+                Due.feed(z, "tells worths;");
+                Due.is("the first " + length, z.offices(length), length == 11 ? 1 : 3);
+                Due.is("the place", z.fault(), length == 11 ? 11 : 6);
+            }
+            Due.fault(" ".repeat(693) + "tells 1", 1, 700);
+            Due.fault(" ".repeat(691) + "tells own", 1, 700);
+            Due.fault(" ".repeat(693) + "tells (", 1, 700);
+            Due.fault(" ".repeat(695) + "clerk", 1, 700);
         });
     }
 
@@ -206,6 +221,11 @@ final class EdgesOfFaults {
             }
             Due.fault("tells ((((((", 1, 12);
             Due.fault("tells ((((((  ", 1, 14);
+            // the most that can stand open at once
+            String open = "0 or 1 and 0<0+1*(".repeat(5) + "0 or 1 and 0<0+1*";
+            Due.is("of 1", RuleGives.holds(open + "1" + ")".repeat(5)), true);
+            Due.is("of 0", RuleGives.holds(open + "0" + ")".repeat(5)), false);
+            Due.is("of the SIDE", RuleGives.holds(open + "same" + ")".repeat(5)), true);
             // side by side they are not within one another
             Due.fault("tells (((((1)))))+(((((1)))))*(((((1)))));", 0, -1);
             Due.fault("tells (((((1)))))+((((((1))))));", 2, 24);

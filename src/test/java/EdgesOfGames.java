@@ -75,6 +75,17 @@ final class EdgesOfGames {
                 Due.is("PLANTED as before", x.count(6), planted);
                 x.plant(0, 3, 50 + planted);
             }
+            // four are PLANTED with 1 to 4, and SEEN to know it: with 5 it is one more
+            WavingDesks y = Due.desks(EdgesOfTerms.clerks(6) + "secret 1 0 0;");
+            for (int a = 1; a <= 4; a++) {
+                y.plant(0, a, a);
+                y.see(0, a, a, true);
+            }
+            Due.is("so without", y.who(0, 2), 1);
+            y.see(0, 5, 20, true);
+            Due.is("not so without", y.who(0, 2), 0);
+            Due.is("with 5", y.who(0, 0), 21);
+            Due.is("the first", y.who(0, 1), 500);
         });
         says("on a DAY (0 to 20)", () -> {
             for (int day = 0; day <= 22; day++) {

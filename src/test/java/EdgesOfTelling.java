@@ -146,6 +146,20 @@ final class EdgesOfTelling {
             Due.is("two", x.knows(0, 0, 1), 2);
             x.burn(2, true);
             Due.is("one", x.knows(0, 0, 1), 3);
+            // the least of three, whether he knows it first or last of them, and whom they tell
+            for (int sooner = 0; sooner < 3; sooner++) {
+                for (int to = 3; to < 5; to++) {
+                    StringBuilder text = new StringBuilder(EdgesOfTerms.clerks(8) + "secret 1 0 7;");
+                    for (int i = 0; i < 3; i++) {
+                        int days = 1 + (i + sooner) % 3;
+                        text.append("line 7 ").append(i).append(' ').append(days).append(";line ").append(i).append(' ')
+                            .append(to).append(' ').append(5 - days).append(';');
+                    }
+                    Due.is("0 of 0, 1, 2", Due.desks(text.toString()).knows(0, to, 1), 0);
+                }
+            }
+            // of those who tell 0 on that DAY 2 knows it sooner than 3
+            Due.is("2 of 2, 3", Due.desks(FOUR + "line 1 2 1;line 1 3 2;line 2 0 3;line 3 0 2;secret 1 0 1;").knows(0, 0, 1), 2);
             // the lesser one tells it a DAY later
             WavingDesks y = Due.desks(FOUR + "line 3 1 1;line 1 0 3;line 3 2 1;line 2 0 2;secret 1 0 3;");
             Due.is("the sooner one", y.knows(0, 0, 1), 2);
@@ -241,6 +255,15 @@ final class EdgesOfTelling {
                 Due.is("the 3rd of " + many, x.agent(3, 1), 0);
             }
         });
+        says("ACTS (at most 40 are kept, the latest ones)", () -> {
+            WavingDesks x = done(52);
+            for (int i = 51; i >= 12; i--) {
+                Due.is("undo()", x.undo(), i - 12);
+                Due.is("as ahead of ACT " + i, state(x), state(done(i)));
+            }
+            Due.is("no more", x.undo(), -1);
+            Due.is("as ahead of ACT 12", state(x), state(done(12)));
+        });
         says("one is TURNED (HIS is the other SIDE)", () -> {
             WavingDesks x = Due.desks("clerk 0 0 0;unmoved 0 1 0;");
             x.turn(0);
@@ -279,6 +302,31 @@ final class EdgesOfTelling {
             x.cut(15, false);
             Due.is("mended", x.count(5), 32766);
         });
+    }
+
+    private static WavingDesks done(int acts) {
+        WavingDesks x = Due.desks("clerk 0 0 0;clerk 1 1 1;line 0 1 1;secret 1 0 0;secret 1 1 1;");
+        for (int i = 0; i < acts; i++) {
+            varied(x, i);
+        }
+        return x;
+    }
+
+    /** Of two ACTS side by side no two are of one kind and of one AGENT or LINE. */
+    private static void varied(WavingDesks x, int i) {
+        switch (i % 13) {
+            case 0, 5, 9 -> x.turn(i % 2);
+            case 1, 6 -> x.move(i % 2);
+            case 2, 7, 10 -> x.burn(i % 2, x.agent(i % 2, 5) == 0);
+            case 3, 8, 11 -> x.cut(0, x.line(0, 3) == 0);
+            case 4 -> x.plant(i % 2, 1 - i % 2, i);
+            default -> x.turn(1 - i % 2);
+        }
+    }
+
+    private static String state(WavingDesks x) {
+        return x.agent(0, 1) + " " + x.agent(0, 2) + " " + x.agent(1, 1) + " " + x.agent(1, 2) + " " + x.count(4) + " "
+            + x.count(5) + " " + x.count(6);
     }
 
     private static void plants() {

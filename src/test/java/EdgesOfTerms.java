@@ -177,6 +177,27 @@ final class EdgesOfTerms {
                 boolean blank = sign == ' ' || sign == '\n';
                 Due.fault("" + (char) sign + "clerk 0 0 0;", blank ? 0 : 1, blank ? -1 : 0);
             }
+            // one letter less, more or other makes another word
+            String[] words = {"clerk", "chief", "codist", "double", "unmoved", "line", "secret", "grudge", "tells"};
+            for (String word : words) {
+                for (int i = 0; i < word.length(); i++) {
+                    Due.fault(word.substring(0, i) + "q" + word.substring(i + 1) + " 0", 1, 0);
+                    Due.fault(word.substring(0, i) + word.substring(i + 1) + " 0", 1, 0);
+                    Due.fault(word.substring(0, i) + "q" + word.substring(i) + " 0", 1, 0);
+                }
+            }
+            for (String value : new String[] {"worth", "from", "to", "same", "loyal", "kin", "day", "own", "not"}) {
+                for (int i = 0; i < value.length(); i++) {
+                    Due.fault("tells " + value.substring(0, i) + "q" + value.substring(i + 1) + ";", 3, 6);
+                    Due.fault("tells " + value.substring(0, i) + "q" + value.substring(i) + ";", 3, 6);
+                }
+            }
+            for (String sign : new String[] {"and", "or"}) {
+                for (int i = 0; i < sign.length(); i++) {
+                    Due.fault("tells 1 " + sign.substring(0, i) + "q" + sign.substring(i + 1) + " 1;", 1, 8);
+                    Due.fault("tells 1 " + sign.substring(0, i) + "q" + sign.substring(i) + " 1;", 1, 8);
+                }
+            }
             Due.fault("tells kin day;", 1, 10);
             Due.fault("tells kinday;", 3, 6);
             Due.fault("tells1;", 0, -1);

@@ -75,6 +75,10 @@ final class EdgesOfWhatIf {
             x.burn(1, true);
             Due.is("nobody is needed", x.silence(0, 0), 0);
             Due.is("the last but one", x.silence(0, 2), 8);
+            Due.is("the first AGENT, who is 1 as bits",
+                Due.desks(EdgesOfTerms.clerks(3) + "line 1 0 1;line 0 2 1;secret 1 0 1;").silence(0, 2), 1);
+            Due.is("the last AGENT, who is 128",
+                Due.desks(EdgesOfTerms.clerks(8) + "line 1 7 1;line 7 2 1;secret 1 0 1;").silence(0, 2), 128);
         });
         says("none (also if he knows it by himself)", () -> {
             WavingDesks x = Due.desks(TWO_WAYS);
@@ -235,6 +239,8 @@ final class EdgesOfWhatIf {
             exchange("clerk 0 0 0;clerk 1 1 1;grudge 0 1;", 2, 0);
             exchange("clerk 0 0 0;clerk 0 0 1;clerk 0 0 1;grudge 0 1;grudge 0 2;", 2, 1);
             exchange("clerk 0 0 0;clerk 0 0 0;grudge 0 1;", 1, 0);
+            exchange("clerk 0 0 0;clerk 1 1 1;clerk 1 1 2;grudge 1 2;", 2, 0);
+            exchange("clerk 0 0 0;clerk 1 1 1;clerk 1 1 2;clerk 1 0 2;grudge 2 1;grudge 1 3;", 3, 4);
             exchange("unmoved 0 0 0;clerk 1 1 1;grudge 0 1;", 1, 0);
             exchange("clerk 1 1 1;unmoved 0 0 0;grudge 0 1;", 1, 0);
             exchange("unmoved 0 0 0;unmoved 1 1 1;grudge 0 1;", 1, 0);
